@@ -1,0 +1,143 @@
+import java.lang.reflect.Method;
+import java.util.Random;
+
+/**
+ * Runs of calls by fixed seeds, ordinary and wrong arguments mixed, on LampCave and on Model: every answer, and asked(),
+ * finding() and digest() behind it, must be the same, and nothing may be thrown.
+ */
+public final class ModelTest {
+    private static final String KINDS = "pcklsg";
+
+    /** A call's name, how often it is made, and the arguments that it is mostly given, from and to each. */
+    private static final Object[][] CALLS = {
+        {"row", 4, 0, 5, 0, 60}, {"lay", 8, 0, 5, 0, 12, 0, 4}, {"at", 4, 0, 5, 0, 12}, {"tear", 1, 0, 5},
+        {"copy", 4, 0, 5, 0, 12, 0, 5, 0, 12, 0, 10}, {"mean", 3, 0, 5}, {"text", 1, 0, 3, 0, 80},
+        {"put", 4, 0, 3, 0, 40, -200, 300}, {"fault", 4, 0, 3}, {"cave", 1, 0, 3}, {"person", 3, 0, 4, 0, 5},
+        {"mark", 6, 0, 4, 1, 5}, {"law", 6, 0, 3}, {"oil", 4, 0, 20}, {"fear", 6, 0, 4, 0, 20}, {"minutes", 6, 0, 12},
+        {"hand", 8, 0, 4}, {"next", 4}, {"had", 3, 0, 20}, {"undo", 4, 0, 12}, {"over", 3}, {"story", 4, 0, 4},
+        {"song", 3, 1, 99}, {"keep", 3, 0, 2}, {"on", 3, 0, 2}, {"holds", 5, 0, 3}, {"best", 3}, {"rest", 5},
+        {"worst", 3, 0, 60}, {"often", 3, 0, 4, 0, 60}, {"longest", 2, 0, 5}, {"calmest", 2, 0, 4, 0, 5},
+        {"order", 2, 0, 5}, {"swap", 2}, {"spare", 2, 0, 60}, {"teller", 3}, {"judge", 6, 0, 5}, {"liars", 5, 0, 5},
+        {"grows", 5, 0, 4, 0, 5}, {"fears", 5, 0, 4, 0, 5}, {"tell", 6, 0, 3, 0, 12, 0, 5},
+        {"visit", 4, 1, 60, 1, 2147483646}, {"asked", 1}, {"upper", 1}, {"lower", 1}, {"count", 2, 0, 7},
+        {"finding", 1}, {"findings", 1, 1, 5}, {"digest", 1},
+    };
+
+    private final Random random;
+    private final LampCave cave = new LampCave();
+    private final Model model = new Model();
+
+    private ModelTest(int seed) {
+        random = new Random(seed);
+    }
+
+    public static void main(String[] args) throws Exception {
+        int runs = args.length > 0 ? Integer.parseInt(args[0]) : 400;
+        for (int seed = 1; seed <= runs; seed++) {
+            new ModelTest(seed).run(seed);
+        }
+        Check.end();
+    }
+
+    private void run(int seed) throws Exception {
+        for (int k = 0; k < 150; k++) {
+            if (k == 2 || random.nextInt(40) == 0) {
+                writeCave(seed);
+            }
+            if (random.nextInt(25) == 0) {
+                layHandings(seed);
+            }
+            Object[] call = pick();
+            int[] given = new int[(call.length - 2) / 2];
+            for (int i = 0; i < given.length; i++) {
+                given[i] = argument((Integer) call[2 + 2 * i], (Integer) call[3 + 2 * i]);
+            }
+            make(seed, (String) call[0], given);
+        }
+    }
+
+    private Object[] pick() {
+        int all = 0;
+        for (Object[] call : CALLS) {
+            all += (Integer) call[1];
+        }
+        int at = random.nextInt(all);
+        for (Object[] call : CALLS) {
+            at -= (Integer) call[1];
+            if (at < 0) {
+                return call;
+            }
+        }
+        return CALLS[0];
+    }
+
+    private int argument(int from, int to) {
+        int[] wrong = {from - 1, to + 1, -1, 0, 60, 61, 99, 100, 120, Integer.MIN_VALUE, Integer.MAX_VALUE, random.nextInt()};
+        return random.nextInt(12) == 0 ? wrong[random.nextInt(wrong.length)]
+            : (int) (from + (long) (random.nextDouble() * ((long) to - from + 1)));
+    }
+
+    /** A TEXT with a CAVE, sometimes with one sign that does not belong there or cut short, and the CAVE by it. */
+    private void writeCave(int seed) throws Exception {
+        StringBuilder signs = new StringBuilder(blanks());
+        signs.append('w').append("ro".charAt(random.nextInt(2))).append(random.nextInt(4)).append(random.nextInt(10));
+        int many = random.nextInt(20) == 0 ? random.nextInt(7) : 1 + random.nextInt(5);
+        int wildest = 1 + random.nextInt(10);
+        for (int x = 0; x < many; x++) {
+            signs.append(blanks()).append(KINDS.charAt(random.nextInt(6))).append(random.nextInt(10));
+            signs.append(random.nextInt(wildest)).append(random.nextInt(wildest)).append(9 - random.nextInt(wildest > 8 ? 9 : 4));
+        }
+        signs.append(blanks());
+        if (random.nextInt(5) == 0) {
+            signs.setCharAt(random.nextInt(signs.length()), (char) (32 + random.nextInt(220)));
+        }
+        if (random.nextInt(8) == 0) {
+            signs.setLength(random.nextInt(signs.length()));
+        }
+        int t = random.nextInt(4);
+        make(seed, "text", t, signs.length());
+        for (int i = 0; i < signs.length(); i++) {
+            make(seed, "put", t, i, signs.charAt(i));
+        }
+        make(seed, "fault", t);
+        make(seed, "cave", t);
+    }
+
+    private String blanks() {
+        return " ".repeat(random.nextInt(3));
+    }
+
+    private void layHandings(int seed) throws Exception {
+        int r = random.nextInt(6);
+        int size = random.nextInt(7);
+        make(seed, "row", r, size);
+        for (int i = 0; i < size; i++) {
+            make(seed, "lay", r, i, random.nextInt(Math.max(1, cave.count(0))));
+        }
+        make(seed, "judge", r);
+        make(seed, "liars", r);
+    }
+
+    private void make(int seed, String name, int... given) throws Exception {
+        Class<?>[] types = new Class<?>[given.length];
+        Object[] values = new Object[given.length];
+        StringBuilder call = new StringBuilder("seed " + seed + ": " + name + "(");
+        for (int i = 0; i < given.length; i++) {
+            types[i] = int.class;
+            values[i] = given[i];
+            call.append(i == 0 ? "" : ", ").append(given[i]);
+        }
+        call.append(")");
+        Check.due(call.toString(), answer(LampCave.class, cave, name, types, values),
+            answer(Model.class, model, name, types, values));
+        Check.due(call + ": asked()", cave.asked(), model.asked());
+        Check.due(call + ": finding()", cave.finding(), model.finding());
+        Check.due(call + ": digest()", cave.digest(), model.digest());
+    }
+
+    private static long answer(Class<?> type, Object of, String name, Class<?>[] types, Object[] values) throws Exception {
+        Method method = type.getDeclaredMethod(name, types);
+        method.setAccessible(true);
+        return ((Number) method.invoke(of, values)).longValue();
+    }
+}
