@@ -71,11 +71,9 @@ public final class LampCave {
     }
 
     public int tear(int r) {
-        if (!isRow(r)) {
-            return BAD;
-        }
-        if (rowSize[r] < 0) {
-            return found(NOTHING);
+        int refused = rowRefusal(r);
+        if (refused != 0) {
+            return refused;
         }
         rowSize[r] = -1;
         return 1;
@@ -99,14 +97,12 @@ public final class LampCave {
     }
 
     public int mean(int r) {
-        if (!isRow(r)) {
-            return BAD;
+        int refused = rowRefusal(r);
+        if (refused != 0) {
+            return refused;
         }
         int size = rowSize[r];
-        if (size < 0) {
-            return found(NOTHING);
-        }
-        if (size == 0) {
+        if (size <= 0) {
             return found(NOUGHT);
         }
         long sum = 0;
@@ -130,11 +126,9 @@ public final class LampCave {
     }
 
     public int put(int t, int i, int v) {
-        if (!isText(t)) {
-            return BAD;
-        }
-        if (textSize[t] < 0) {
-            return found(NOTHING);
+        int refused = textRefusal(t);
+        if (refused != 0) {
+            return refused;
         }
         if (i < 0 || i >= textSize[t]) {
             return found(BEYOND);
@@ -145,21 +139,17 @@ public final class LampCave {
     }
 
     public int fault(int t) {
-        if (!isText(t)) {
-            return BAD;
-        }
-        if (textSize[t] < 0) {
-            return found(NOTHING);
+        int refused = textRefusal(t);
+        if (refused != 0) {
+            return refused;
         }
         return reader.read(texts[t], textSize[t], draft);
     }
 
     public int cave(int t) {
-        if (!isText(t)) {
-            return BAD;
-        }
-        if (textSize[t] < 0) {
-            return found(NOTHING);
+        int refused = textRefusal(t);
+        if (refused != 0) {
+            return refused;
         }
         if (reader.read(texts[t], textSize[t], draft) != NONE) {
             return STATE;
@@ -550,12 +540,6 @@ public final class LampCave {
     // ---- 5 handings judged, learnt
 
     public int judge(int r) {
-        if (!isRow(r)) {
-            return BAD;
-        }
-        if (now.people == 0) {
-            return STATE;
-        }
         int refused = handingsRefusal(r);
         if (refused != 0) {
             return refused;
@@ -579,12 +563,6 @@ public final class LampCave {
     }
 
     public int liars(int r) {
-        if (!isRow(r)) {
-            return BAD;
-        }
-        if (now.people == 0) {
-            return STATE;
-        }
         int refused = handingsRefusal(r);
         if (refused != 0) {
             return refused;
@@ -605,37 +583,11 @@ public final class LampCave {
     }
 
     public int grows(int x, int r) {
-        if (!isOne(x) || !isRow(r)) {
-            return BAD;
-        }
-        int refused = handingsRefusal(r);
-        if (refused != 0) {
-            return refused;
-        }
-        int fitting = 0;
-        for (int v = 0; v < FIGURES; v++) {
-            aside.begin(now);
-            aside.grows[x] = v;
-            fitting |= allByLaw(r) ? 1 << v : 0;
-        }
-        return fitting;
+        return figuresThatFit(x, r, aside.grows);
     }
 
     public int fears(int x, int r) {
-        if (!isOne(x) || !isRow(r)) {
-            return BAD;
-        }
-        int refused = handingsRefusal(r);
-        if (refused != 0) {
-            return refused;
-        }
-        int fitting = 0;
-        for (int v = 0; v < FIGURES; v++) {
-            aside.begin(now);
-            aside.fear[x] = v;
-            fitting |= allByLaw(r) ? 1 << v : 0;
-        }
-        return fitting;
+        return figuresThatFit(x, r, aside.fear);
     }
 
     public int tell(int law, int n, int r) {
@@ -769,22 +721,37 @@ public final class LampCave {
         return FINDING;
     }
 
-    /** What refuses place i of a ROW, 0: nothing does. */
-    private int placeRefusal(int r, int i) {
+    // What refuses a ROW, a place of one, a TEXT, a ROW as handings; 0: nothing does.
+
+    private int rowRefusal(int r) {
         if (!isRow(r)) {
             return BAD;
         }
-        if (rowSize[r] < 0) {
-            return found(NOTHING);
-        }
-        if (i < 0 || i >= rowSize[r]) {
-            return found(BEYOND);
-        }
-        return 0;
+        return rowSize[r] < 0 ? found(NOTHING) : 0;
     }
 
-    /** What refuses a ROW as handings, 0: nothing does. */
+    private int placeRefusal(int r, int i) {
+        int refused = rowRefusal(r);
+        if (refused != 0) {
+            return refused;
+        }
+        return i < 0 || i >= rowSize[r] ? found(BEYOND) : 0;
+    }
+
+    private int textRefusal(int t) {
+        if (!isText(t)) {
+            return BAD;
+        }
+        return textSize[t] < 0 ? found(NOTHING) : 0;
+    }
+
     private int handingsRefusal(int r) {
+        if (!isRow(r)) {
+            return BAD;
+        }
+        if (now.people == 0) {
+            return STATE;
+        }
         if (rowSize[r] < 0) {
             return found(NOTHING);
         }
@@ -914,6 +881,24 @@ public final class LampCave {
     /** NONE, which says that nobody screams, is longest of all. */
     private static boolean isLonger(int holding, int than) {
         return than != NONE && (holding == NONE || holding > than);
+    }
+
+    /** Figures (bits) that one may have in a row of aside, so that all handings in a ROW are by THE LAW. */
+    private int figuresThatFit(int x, int r, int[] ofEach) {
+        if (!isOne(x)) {
+            return BAD;
+        }
+        int refused = handingsRefusal(r);
+        if (refused != 0) {
+            return refused;
+        }
+        int fitting = 0;
+        for (int v = 0; v < FIGURES; v++) {
+            aside.begin(now);
+            ofEach[x] = v;
+            fitting |= allByLaw(r) ? 1 << v : 0;
+        }
+        return fitting;
     }
 
     private boolean allByLaw(int r) {
