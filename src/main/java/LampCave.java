@@ -1169,7 +1169,7 @@ public final class LampCave {
         final int[] beside = new int[MOST_PEOPLE];
         final int[] calmBeside = new int[MOST_PEOPLE];
         final int[] holders = new int[MOST_ASIDE];
-        final int[] saved = new int[(MOST_HANDED + 1) * SAVED];
+        final int[] saved = new int[MOST_HANDED * SAVED];
 
         void begin(Cave cave) {
             people = cave.people;

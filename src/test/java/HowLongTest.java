@@ -75,6 +75,15 @@ public final class HowLongTest {
         Check.due("OVER much later", far.rest(), Check.NONE);
         // The lamp stays with the liar's 18 till 19 is shown behind 19 MINUTES; from 20 on 2 has it.
         Check.due("who has the lamp counts, too", Check.in("wr00 l9009 p0009 p0109").rest(), 22);
+        // In a ring of three the most afraid one's FEAR falls by 1 each MINUTE till all are 0, the last one's last;
+        // 3 MINUTES later 0 had the lamp three times.
+        LampCave ring = Check.in("wo00 p0919 p0919 p0919");
+        ring.fear(0, 37);
+        ring.fear(1, 40);
+        ring.fear(2, 20);
+        Check.due("rest() behind 100", ring.rest(), 100);
+        ring.fear(2, 21);
+        Check.due("rest() behind 101 is none", ring.rest(), Check.NONE);
         // Two at the ends, by turns of LAW 0: 2 MINUTES ahead it was the same.
         LampCave ends = Check.in("wr09 p1119 p0009 p0119");
         Check.due("rest() of two at the ends", ends.rest(), 3);

@@ -139,6 +139,13 @@ public final class MinutesTest {
         Check.due("hand(1): BAD ahead of FULL", x.hand(1), Check.BAD);
         Check.due("next() at 120", x.next(), 0);
         Check.due("had(119)", x.had(119), 0);
+        LampCave turns = Check.in("wr19 p0009 p0009");
+        turns.minutes(60);
+        turns.minutes(59);
+        turns.hand(0);
+        Check.due("next() by turns at 120", turns.next(), 1);
+        Check.due("tell(1, 2, 0) at 120", turns.tell(1, 2, 0), 2);
+        Check.rowIs("tell(1, 2, 0) at 120", turns, 0, 1, 0);
         Check.due("holds(0) at 120 goes on aside", x.holds(0), Check.NONE);
         x.fear(0, 45);
         Check.due("minutes(1): FULL also if OVER", x.minutes(1), Check.FULL);
@@ -236,6 +243,8 @@ public final class MinutesTest {
         Check.due("song(10)", x.song(10), 9);
         Check.fearsAre("song(10)", x, 1, 2, 0, 6);
         Check.due("song(99)", x.song(99), 3);
+        Check.due("song(1): 0 is not yet FEAR of all", x.song(1), Check.STATE);
+        Check.due("song(1): FEAR of all is 0", Check.in("wr09 p0009 s0009").song(1), 0);
         LampCave plain = Check.in("wr09 p4009 c1009 g0009");
         Check.due("song(99) without SINGERS", plain.song(99), 3);
         Check.fearsAre("song(99)", plain, 3, 0, 0);

@@ -109,6 +109,10 @@ public final class RowsTextsTest {
         Check.found("copy: n MAX", x, x.copy(0, 4, 1, 2, Integer.MAX_VALUE), Check.BEYOND);
         Check.rowIs("copies refused", x, 1, 0, 0);
         Check.due("copy: n 0 at the ends", x.copy(0, 4, 1, 2, 0), 1);
+        x.row(2, 0);
+        x.row(3, 0);
+        Check.due("copy: none of none", x.copy(2, 0, 3, 0, 0), 1);
+        Check.found("copy: 1 of none", x, x.copy(2, 0, 3, 0, 1), Check.BEYOND);
         Check.due("copy(0, 2, 1, 0, 2)", x.copy(0, 2, 1, 0, 2), 1);
         Check.rowIs("copy to another", x, 1, 3, 4);
         Check.due("copy up in itself", x.copy(0, 0, 0, 1, 3), 1);
@@ -123,6 +127,8 @@ public final class RowsTextsTest {
         Check.found("mean(2)", x, x.mean(2), Check.NOTHING);
         x.row(2, 0);
         Check.found("mean of none", x, x.mean(2), Check.NOUGHT);
+        Check.layRow(x, 2, 7);
+        Check.told("mean(7)", x, x.mean(2), 7);
         Check.layRow(x, 2, 7, 4);
         Check.told("mean(7, 4)", x, x.mean(2), 5);
         Check.layRow(x, 2, -7, -4);
