@@ -25,7 +25,7 @@ public final class LampCave {
     private final Cave[] kept = new Cave[KEPT];
     private final Reader reader = new Reader();
     private final Aside aside = new Aside();
-    private final Search search = new Search(aside);
+    private final Search search = new Search();
     private final int[] seats = new int[MOST_PEOPLE];
     private final int[] bestSeats = new int[MOST_PEOPLE];
     private final int[] findingTimes = new int[SIZE + 1];
@@ -433,7 +433,7 @@ public final class LampCave {
             return STATE;
         }
         aside.begin(now);
-        search.findLongest();
+        search.findLongest(aside);
         fillRow(r, search.best, search.bestLength);
         return search.bestLength;
     }
@@ -446,7 +446,7 @@ public final class LampCave {
             return STATE;
         }
         aside.begin(now);
-        search.findCalmest(n);
+        search.findCalmest(aside, n);
         if (search.bestLength < 0) {
             return NONE;
         }
@@ -1412,7 +1412,6 @@ public final class LampCave {
 
     /** All handings of some MINUTES, by numbers, those left out that are OVER on the way. */
     private static final class Search {
-        private final Aside aside;
         private final int[] path = new int[MOST_HANDED];
         private boolean forLength;
         private int goal;
@@ -1420,35 +1419,31 @@ public final class LampCave {
         int bestLength;
         int leastFear;
 
-        Search(Aside aside) {
-            this.aside = aside;
-        }
-
-        void findLongest() {
+        void findLongest(Aside aside) {
             forLength = true;
             goal = MOST_HANDED;
             bestLength = 0;
-            start();
+            start(aside);
         }
 
         /** bestLength is below 0, if there is none. */
-        void findCalmest(int n) {
+        void findCalmest(Aside aside, int n) {
             forLength = false;
             goal = Math.min(n, MOST_HANDED);
             bestLength = -1;
             leastFear = MOST_FEAR + 1;
-            start();
+            start(aside);
         }
 
-        private void start() {
+        private void start(Aside aside) {
             if (!aside.isOver()) {
-                handFrom(0);
+                handFrom(aside, 0);
             }
         }
 
-        private void handFrom(int depth) {
-            weigh(depth);
-            if (depth >= goal) {
+        private void handFrom(Aside aside, int depth) {
+            weigh(aside, depth);
+            if (depth >= goal || depth >= MOST_HANDED) {
                 return;
             }
             aside.save(depth);
@@ -1456,7 +1451,7 @@ public final class LampCave {
                 path[depth] = x;
                 aside.pass(x);
                 if (!aside.isOver()) {
-                    handFrom(depth + 1);
+                    handFrom(aside, depth + 1);
                 }
                 aside.restore(depth);
             }
@@ -1467,7 +1462,7 @@ public final class LampCave {
             return forLength ? bestLength == goal : bestLength == goal && leastFear == 0;
         }
 
-        private void weigh(int depth) {
+        private void weigh(Aside aside, int depth) {
             int greatest = aside.greatestFear();
             boolean better = forLength ? depth > bestLength : depth == goal && greatest < leastFear;
             if (better) {

@@ -85,8 +85,8 @@ public final class FaceTest {
     private static void words() throws Exception {
         String source = Files.readString(SOURCE);
         String code = source.replaceAll("(?s)/\\*.*?\\*/", "").replaceAll("//[^\n]*", "");
-        String[] never = {"throw", "throws", "try", "catch", "synchronized", "assert", "package", "Exact", "Random", "System\\.(?!arraycopy)",
-            "Thread", "hashCode", "->", "::", "double", "float", "Object", "static \\{"};
+        String[] never = {"throw", "throws", "try", "catch", "synchronized", "assert", "package", "Exact", "Random",
+            "System\\.(?!arraycopy)", "Thread", "hashCode", "->", "::", "double", "float", "Object", "static \\{"};
         for (String word : never) {
             String whole = Character.isLetter(word.charAt(0)) ? "\\b" + word : word;
             Check.that("the file has no " + word, !Pattern.compile(whole).matcher(code).find());
