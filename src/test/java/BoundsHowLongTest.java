@@ -174,6 +174,9 @@ public final class BoundsHowLongTest {
             Check.due("rest() with OIL " + oil, x.rest(), 7);
             Check.due("rest() with OIL " + oil + ", OIL then", x.count(2), oil);
         }
+        LampCave dark = Check.in("wr00 p5919");
+        dark.rest();
+        Check.due("rest(), then hand(0): OIL has an end again", dark.hand(0), 14);
     }
 
     /** "Or it is OVER sooner". */

@@ -173,6 +173,11 @@ public final class BoundsRowsTest {
         Check.due("tear(5) of the last, which is full", x.tear(5), 1);
         Check.due("count(6)", x.count(6), 2);
         Check.rowIs("others stay", x, 2, 0, 1, 2, 0);
+        LampCave never = new LampCave();
+        LampCave torn = new LampCave();
+        torn.row(3, 2);
+        torn.tear(3);
+        Check.due("torn, digest() as if it never was", torn.digest(), never.digest());
         x.row(0, 5);
         Check.rowIs("torn and there anew", x, 0, 0, 0, 0, 0, 0);
     }

@@ -12,6 +12,7 @@ public final class BoundsSeatsTest {
         calmestRefused();
         orderOfOneToFive();
         orderLongest();
+        orderFromWhoHadIt();
         orderComesToARow();
         orderRefused();
         swapPairs();
@@ -105,6 +106,9 @@ public final class BoundsSeatsTest {
         Check.rowIs("calmest(2, 0)", x, 0, 0, 2);
         Check.due("calmest(3, 0)", x.calmest(3, 0), 0);
         Check.rowIs("calmest(3, 0)", x, 0, 0, 0, 2);
+        Check.due("longest(1) ahead of it", x.longest(1), 6);
+        Check.due("calmest(1, 0) behind longest(1)", x.calmest(1, 0), 1);
+        Check.rowIs("calmest(1, 0) behind longest(1)", x, 0, 0);
         LampCave later = Check.in("wr09 p1009 p0009 p5059");
         Check.due("calmest(1, 0), the last one", later.calmest(1, 0), 1);
         Check.rowIs("calmest(1, 0), the last one", later, 0, 2);
@@ -171,6 +175,20 @@ public final class BoundsSeatsTest {
         Check.rowIs("order(0), 0 between 2 and 3", x, 0, 1, 2, 0, 3, 4);
         Check.due("PEOPLE sit as they sat", x.mark(2, 1), 2);
         Check.due("PEOPLE sit as they sat", x.order(1), Check.NONE);
+    }
+
+    /** "Who had the lamp has it still": 2, who SHOWS most and keeps it by LAW 2: 0 must sit BESIDE, while there is OIL. */
+    private static void orderFromWhoHadIt() {
+        LampCave x = Check.in("wr29 p3901 p0009 p9009 p0009");
+        Check.due("order(0), nobody had it", x.order(0), 91);
+        Check.rowIs("order(0), nobody had it: 0 keeps it", x, 0, 0, 1, 2, 3);
+        Check.due("swap(), nobody had it", x.swap(), Check.NONE);
+        x.hand(2);
+        x.fear(0, 3);
+        Check.due("order(0), 2 had it", x.order(0), 90);
+        Check.rowIs("order(0), 2 had it", x, 0, 0, 2, 1, 3);
+        Check.due("swap(), 2 had it", x.swap(), 1);
+        Check.due("swap(), 2 had it, how long", x.asked(), 90);
     }
 
     private static void orderIs(String cave, int... order) {

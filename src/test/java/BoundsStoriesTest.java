@@ -208,10 +208,15 @@ public final class BoundsStoriesTest {
             LampCave y = Bounds.lived();
             x.keep(1);
             y.keep(1);
+            // Other MINUTES with other FEARS and OIL come in place of those that are kept.
+            x.undo(0);
             x.law(0);
-            x.oil(0);
+            x.oil(50);
+            x.fear(4, 40);
+            for (int minute = 0; minute < 9; minute++) {
+                x.hand((minute + 3) % 5);
+            }
             x.fear(4, 45);
-            x.undo(3);
             for (int k = 0; k < times; k++) {
                 Check.due("on(1)", x.on(1), 7);
             }
@@ -221,6 +226,23 @@ public final class BoundsStoriesTest {
                 y.undo(n);
                 Check.due("on(1), undo(" + n + "), digest()", x.digest(), y.digest());
             }
+        }
+        // All 120 of them.
+        LampCave full = Bounds.livedFull();
+        LampCave same = Bounds.livedFull();
+        full.keep(0);
+        same.keep(0);
+        full.undo(0);
+        full.law(1);
+        full.oil(60);
+        full.fear(1, 1);
+        full.minutes(60);
+        full.minutes(60);
+        Check.due("on(0) at MINUTE 120", full.on(0), 120);
+        for (int n = 120; n >= 0; n -= 5) {
+            full.undo(n);
+            same.undo(n);
+            Check.due("on(0), undo(" + n + "), digest()", full.digest(), same.digest());
         }
         LampCave over = Bounds.lived();
         over.keep(1);

@@ -257,13 +257,15 @@ public final class BoundsTextsTest {
             Check.due("without PEOPLE count(" + what + ")", x.count(what), due[what]);
         }
         Check.found("without PEOPLE had(0)", x, x.had(0), Check.BEYOND);
-        LampCave row = Bounds.lived();
-        Check.write(row, 3, "wr00");
-        row.cave(3);
-        // The TEXTS differ, so they are made alike again; FORM, THE LAW and OIL then are all that could differ.
-        x.text(3, 0);
-        row.text(3, 0);
-        Check.due("without PEOPLE digest()", x.digest(), row.digest());
+        // The digest tells of FORM and THE LAW: it is the one of an object that never had PEOPLE.
+        for (String form : new String[] {"wr00", "wo00", "wr30", "wr09", " wo39 "}) {
+            LampCave without = Check.in("wo39 p9999");
+            Check.write(without, 0, form);
+            Check.due("cave(0) of '" + form + "'", without.cave(0), 0);
+            LampCave never = new LampCave();
+            Check.write(never, 0, form);
+            Check.due("'" + form + "' without PEOPLE, digest()", without.digest(), never.digest());
+        }
     }
 
     /** "BAD; NOTHING; STATE: a FAULT. (STATE behind NOTHING.)" */
