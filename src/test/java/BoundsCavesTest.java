@@ -53,7 +53,8 @@ public final class BoundsCavesTest {
             LampCave x = Check.in("wr00 " + LETTERS.charAt(kind) + "0009");
             for (int fear : new int[] {0, 1, 90, 98, 99}) {
                 x.fear(0, fear);
-                Check.told("KIND " + kind + " shows of " + fear, x, x.person(0, 5), kind == 3 ? fear + 9 : kind == 5 ? -1 : fear);
+                int due = kind == 3 ? fear + 9 : kind == 5 ? -1 : fear;
+                Check.told("KIND " + kind + " shows of " + fear, x, x.person(0, 5), due);
             }
         }
         Check.due("0 is more than a GUIDE's -1", Check.in("wr00 g9009 p0009").next(), 1);
@@ -83,7 +84,8 @@ public final class BoundsCavesTest {
     private static void markCalm() {
         for (String form : new String[] {"r", "o"}) {
             for (int many = 1; many <= 5; many++) {
-                LampCave x = Check.in("w" + form + "00" + people(many, many % 3 == 0 ? "c0009" : many % 3 == 1 ? "s0009" : "g0009"));
+                String each = "csg".charAt(many % 3) + "0009";
+                LampCave x = Check.in("w" + form + "00" + people(many, each));
                 for (int who = 0; who < many; who++) {
                     int inRow = (who > 0 ? 1 : 0) + (who < many - 1 ? 1 : 0);
                     int due = form.equals("o") && many > 2 ? 2 : inRow;

@@ -164,7 +164,7 @@ public final class BoundsHandingsTest {
         Check.due("judge of what is there alone", one.judge(0), 2);
     }
 
-    /** "Which sets of PEOPLE can be those who lie (.. GUIDES never) ..: how many sets": all of one to five, GUIDES none to all. */
+    /** "Which sets of PEOPLE can be those who lie (.. GUIDES never) ..: how many sets": of one to five, GUIDES none to all. */
     private static void liarsSets() {
         for (int many = 1; many <= 5; many++) {
             for (int guides = 0; guides <= many; guides++) {

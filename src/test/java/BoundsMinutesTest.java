@@ -409,7 +409,8 @@ public final class BoundsMinutesTest {
         for (int who : new int[] {0, 4}) {
             Bounds.refused("hand(" + who + ") when OVER", Bounds::livedOver, x -> x.hand(who), Check.STATE);
             Bounds.refused("hand(" + who + ") at 120", Bounds::livedFull, x -> x.hand(who), Check.FULL);
-            Bounds.refused("hand(" + who + ") at 120 and OVER: STATE first", Bounds::livedFullOver, x -> x.hand(who), Check.STATE);
+            String both = "hand(" + who + ") at 120 and OVER: STATE first";
+            Bounds.refused(both, Bounds::livedFullOver, x -> x.hand(who), Check.STATE);
         }
     }
 

@@ -35,7 +35,8 @@ public final class BoundsTextsTest {
      * FEAR (0 .. 9), GROWS (0 .. 9), FALLS (0 .. 9), SCREAMS (1 .. 9)." "A letter, a figure that is none such: its place."
      */
     private static void everySignAtEveryPlace() {
-        String[] wanted = {"w", "ro", "0123", all('0', '9'), " ", "pcklsg", all('0', '9'), all('0', '9'), all('0', '9'), all('1', '9')};
+        String figures = all('0', '9');
+        String[] wanted = {"w", "ro", "0123", figures, " ", "pcklsg", figures, figures, figures, all('1', '9')};
         for (int place = 0; place < wanted.length; place++) {
             LampCave x = null;
             for (int v = -128; v <= 127; v++) {

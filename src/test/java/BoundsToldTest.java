@@ -72,9 +72,9 @@ public final class BoundsToldTest {
 
     /** All other calls leave it, answered or not. */
     private static void askedNotByOthers() {
-        Bounds.Call[] others = {x -> x.row(3, 3), x -> x.tear(3), x -> x.copy(0, 0, 0, 1, 1), x -> x.text(3, 3), x -> x.put(0, 0, 1),
-            x -> x.fault(0), x -> x.cave(0), x -> x.mark(1, 1), x -> x.law(1), x -> x.oil(1), x -> x.fear(1, 1), x -> x.minutes(3),
-            x -> x.hand(1), LampCave::next, x -> x.had(0), x -> x.undo(1), x -> x.story(1), x -> x.song(99), x -> x.keep(1),
+        Bounds.Call[] others = {x -> x.row(3, 3), x -> x.tear(3), x -> x.copy(0, 0, 0, 1, 1), x -> x.text(3, 3),
+            x -> x.put(0, 0, 1), x -> x.fault(0), x -> x.cave(0), x -> x.mark(1, 1), x -> x.law(1), x -> x.oil(1),
+            x -> x.fear(1, 1), x -> x.minutes(3), x -> x.hand(1), LampCave::next, x -> x.had(0), x -> x.undo(1), x -> x.story(1), x -> x.song(99), x -> x.keep(1),
             x -> x.on(0), LampCave::rest, x -> x.often(1, 9), x -> x.longest(1), x -> x.calmest(1, 1), x -> x.order(1),
             x -> x.spare(9), x -> x.grows(1, 2), x -> x.fears(1, 2), x -> x.tell(1, 9, 1), LampCave::upper, LampCave::lower,
             x -> x.count(1), LampCave::finding, x -> x.findings(1), LampCave::digest};
@@ -95,8 +95,8 @@ public final class BoundsToldTest {
             Check.that("the " + k + "th is refused", refused[k].on(x) < 0);
             Check.due("asked() behind the " + k + "th refused", x.asked(), 777);
         }
-        Bounds.Call[] state = {x -> x.holds(0), LampCave::best, x -> x.worst(0), LampCave::swap, LampCave::teller, x -> x.judge(2),
-            x -> x.liars(2), x -> x.visit(1, 1)};
+        Bounds.Call[] state = {x -> x.holds(0), LampCave::best, x -> x.worst(0), LampCave::swap, LampCave::teller,
+            x -> x.judge(2), x -> x.liars(2), x -> x.visit(1, 1)};
         for (int k = 0; k < state.length; k++) {
             LampCave x = Bounds.empty();
             Check.due("the " + k + "th without PEOPLE", state[k].on(x), Check.STATE);
