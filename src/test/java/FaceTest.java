@@ -19,6 +19,9 @@ public final class FaceTest {
         methods();
         privateNames();
         words();
+        library();
+        sizes();
+        objectsMade();
         Check.end();
     }
 
@@ -82,9 +85,14 @@ public final class FaceTest {
         }
     }
 
+    /** The file without its comments. */
+    private static String code() throws Exception {
+        return Files.readString(SOURCE).replaceAll("(?s)/\\*.*?\\*/", "").replaceAll("//[^\n]*", "");
+    }
+
     private static void words() throws Exception {
         String source = Files.readString(SOURCE);
-        String code = source.replaceAll("(?s)/\\*.*?\\*/", "").replaceAll("//[^\n]*", "");
+        String code = code();
         String[] never = {"throw", "throws", "try", "catch", "synchronized", "assert", "package", "Exact", "Random",
             "System\\.(?!arraycopy)", "Thread", "hashCode", "->", "::", "double", "float", "Object", "static \\{"};
         for (String word : never) {
@@ -97,6 +105,53 @@ public final class FaceTest {
         }
         for (int i = 0; i < source.length(); i++) {
             Check.that("signs 1 to 127 alone", source.charAt(i) > 0 && source.charAt(i) < 128);
+        }
+    }
+
+    /** Rule 4: what is called of the library, by name. */
+    private static void library() throws Exception {
+        Set<String> listed = Set.of("Math.min", "Math.max", "Integer.bitCount", "Arrays.fill", "System.arraycopy");
+        Matcher call = Pattern.compile("\\b([A-Z]\\w*\\.\\w+)\\(").matcher(code());
+        while (call.find()) {
+            Check.that("in the library's list: " + call.group(1), listed.contains(call.group(1)));
+        }
+    }
+
+    /** Rule 11: how many classes, fields of each beside its constants, lines of each method. */
+    private static void sizes() throws Exception {
+        Class<?>[] inside = LampCave.class.getDeclaredClasses();
+        Check.that("at most twelve classes", inside.length + 1 <= 12);
+        Check.that("fields of LampCave", fieldsOf(LampCave.class) <= 20);
+        for (Class<?> each : inside) {
+            Check.that("fields of " + each.getName(), fieldsOf(each) <= 20);
+        }
+        // A method ends at the first line that closes as deep as it began.
+        Matcher method = Pattern.compile("(?ms)^( {4}| {8})(?!\\s)[^\\n;=]*\\) \\{\\n.*?^\\1\\}$").matcher(code());
+        int methods = 0;
+        while (method.find()) {
+            methods++;
+            int lines = method.group().split("\n").length;
+            Check.that("at most sixty lines: " + method.group().split("\n")[0].trim(), lines <= 60);
+        }
+        Check.that("methods were found", methods >= 49);
+    }
+
+    private static int fieldsOf(Class<?> type) {
+        int many = 0;
+        for (Field field : type.getDeclaredFields()) {
+            many += Modifier.isStatic(field.getModifiers()) ? 0 : 1;
+        }
+        return many;
+    }
+
+    /** All that a call needs is made with the object; but for the places of kept CAVES, which keep() makes when due. */
+    private static void objectsMade() throws Exception {
+        // A field says private or final; what a method makes for itself says neither.
+        for (String line : code().split("\n")) {
+            boolean isField = line.matches("\\s*(private |final |private final )[\\w\\[\\]]+ \\w+ = new .*;");
+            if (line.matches(".*\\bnew\\b.*") && !isField) {
+                Check.that("made by keep() alone: " + line.trim(), line.trim().equals("place = new Cave();"));
+            }
         }
     }
 }
